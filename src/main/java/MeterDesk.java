@@ -18,13 +18,20 @@ public final class MeterDesk {
 
     private static final int WRONG_FORM = 1, TOO_LONG = 2;
 
-    private final Source source = new Source();
-    private final Tariff tariff = new Tariff();
-    private final Layout layout = new Layout(source, tariff);
-    private final Output output = new Output(source, tariff, layout);
+    private final Source source;
+    private final Tariff tariff;
+    private final Layout layout;
+    private final Output output;
     private int timesRewritten;
 
     public MeterDesk() {
+        Source given = new Source();
+        Tariff asked = new Tariff();
+        Layout planned = new Layout(given, asked);
+        source = given;
+        tariff = asked;
+        layout = planned;
+        output = new Output(given, asked, planned);
     }
 
     public int code(long w, int n) {
