@@ -21,6 +21,7 @@ public final class PromiseTests {
         costOfWide();
         setEdges();
         instructionLengths();
+        cutAtTwoHundred();
         wrongInstructions();
         wideForms();
         tableEdges();
@@ -275,6 +276,13 @@ public final class PromiseTests {
         desk.mark(255, true);
         desk.rewrite();
         due("two dangerous ones have one look", desk.moved(1, 2), 4 + 4 + 3 + 1);
+        desk.handler(0, 2, 0, 0);
+        desk.rewrite();
+        due("a look at place 0", desk.moved(0, 2), 3 + 4 + 4 + 1);
+        desk.clear();
+        load(desk, 0, 177);
+        desk.rewrite();
+        due("no look without the handler", desk.moved(0, 2), 3 + 4 + 1);
     }
 
     // Promise 7
@@ -320,6 +328,7 @@ public final class PromiseTests {
         dueOctets("cost " + sum, desk, join(of(184, ENTER_HIGH, ENTER_LOW), form, of(0, 1)));
         due("block cost " + sum, desk.moved(0, 3), sum);
         due("sum of costs " + sum, desk.about(5), sum);
+        due("place behind cost " + sum, desk.moved(1, 1), 3 + form.length + 1);
     }
 
     private static void costOfWide() {
@@ -389,6 +398,20 @@ public final class PromiseTests {
                     dueRewrite("opcode " + op + " cut", 1, Arrays.copyOf(whole, n));
                 }
             }
+        }
+    }
+
+    /** The last octet that there can be begins an instruction that would go on. */
+    private static void cutAtTwoHundred() {
+        for (int op = 0; op <= 200; op++) {
+            boolean more = op == 170 || op == 171 || op == 196 || operandsOf(op) > 0;
+            boolean none = op == 168 || op == 169;
+            MeterDesk desk = with(join(times(199, 0), of(op)));
+            due("opcode " + op + " at 199", desk.rewrite(), more || none ? 1 : 0);
+        }
+        for (int n = 1; n <= 15; n++) {
+            dueRewrite("table cut at 200 after " + n, 1,
+                join(times(200 - n, 0), Arrays.copyOf(table(0, 0, 1), n)));
         }
     }
 
@@ -477,6 +500,10 @@ public final class PromiseTests {
         dueRewrite("s4 is no s2", 1, join(of(0, 200), s4(0x00010000 - 1)));
         dueRewrite("default inside", 1, join(of(170, 0, 0, 0), s4(1), s4(0), s4(0), s4(0)));
         dueRewrite("table goal inside", 1, join(of(170, 0, 0, 0), s4(0), s4(0), s4(0), s4(4)));
+        dueRewrite("what is behind a table is no goal", 0,
+            join(of(170, 0, 0, 0), s4(0), s4(0), s4(0), s4(0), times(8, 87)));
+        dueRewrite("what is behind a lookup is no goal", 0,
+            join(of(171, 0, 0, 0), s4(0), s4(1), s4(0), s4(0), times(8, 87)));
         dueRewrite("last table goal at the end", 1,
             join(of(170, 0, 0, 0), s4(0), s4(0), s4(1), s4(0), s4(24)));
         dueRewrite("lookup goal inside", 1, join(of(171, 0, 0, 0), s4(0), s4(1), s4(0), s4(4)));
@@ -804,8 +831,12 @@ public final class PromiseTests {
         due("guard -1, 4", desk.guard(-1, 4), REFUSED);
         desk.handler(0, 1, 0, 1);
         due("a later handler was not rewritten", desk.guard(2, 3), REFUSED);
+        desk.handler(1, 3, 1, 255);
         desk.rewrite();
         due("now it was", desk.guard(2, 3), 1);
+        due("so was the fourth", desk.guard(3, 3), 255);
+        due("to the end", desk.guard(3, 1), desk.about(0));
+        due("guard 4", desk.guard(4, 0), REFUSED);
     }
 
     private static void aboutAnswers() {
