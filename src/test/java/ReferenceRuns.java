@@ -8,8 +8,8 @@ import java.util.TreeMap;
 import java.util.TreeSet;
 
 /**
- * Runs of calls from fixed seeds, beside a second rewriter that is written from the document alone
- * and shares no way of working with the first: it writes the whole method anew in every round.
+ * Runs of calls from fixed seeds, beside a second rewriter that works in another way: it writes the
+ * whole method anew in every round. It has the same author, and so the same reading of the document.
  */
 public final class ReferenceRuns {
     private static final int RUNS = 6000, CALLS = 512;
