@@ -1,12 +1,9 @@
 import java.util.Arrays;
 
 /** For each promise: ordinary inputs, the edges that the document names, and wrong inputs. */
-public final class PromiseTests {
-    private static final int REFUSED = -1, FULL = -2;
+public final class PromiseTests extends DeskTest {
     private static final int ENTER_HIGH = 3, CHARGE_LOW = 232, SIZE_LOW = 233, ENTER_LOW = 234;
     private static final int LEAVE_LOW = 235, LOOK_LOW = 236;
-    private static int wrong = 0;
-    private static int looked = 0;
 
     public static void main(String[] args) {
         newObject();
@@ -45,84 +42,7 @@ public final class PromiseTests {
         guardAnswers();
         aboutAnswers();
         countAnswers();
-        System.out.println(looked + " answers looked at, " + wrong + " not as due");
-        if (wrong != 0) {
-            System.exit(1);
-        }
-    }
-
-    private static void due(String what, long got, long want) {
-        looked++;
-        if (got != want) {
-            wrong++;
-            System.out.println(what + " answered " + got + ", due is " + want);
-        }
-    }
-
-    private static void due(String what, boolean got, boolean want) {
-        due(what, got ? 1 : 0, want ? 1 : 0);
-    }
-
-    private static void load(MeterDesk desk, int... octets) {
-        for (int i = 0; i < octets.length; i += 8) {
-            int n = Math.min(8, octets.length - i);
-            long w = 0;
-            for (int k = 0; k < n; k++) {
-                w |= (long) octets[i + k] << (56 - 8 * k);
-            }
-            due("code while loading", desk.code(w, n), desk.count(0));
-        }
-    }
-
-    private static MeterDesk with(int... octets) {
-        MeterDesk desk = new MeterDesk();
-        load(desk, octets);
-        return desk;
-    }
-
-    /** An object on which nothing costs anything, so that blocks put nothing in. */
-    private static MeterDesk freeWith(int... octets) {
-        MeterDesk desk = with(octets);
-        for (int op = 0; op <= 200; op++) {
-            desk.cost(op, 0);
-        }
-        return desk;
-    }
-
-    private static void dueOctets(String what, MeterDesk desk, int... want) {
-        due(what + ": about(0)", desk.about(0), want.length);
-        for (int k = 0; k < want.length; k++) {
-            due(what + ": octet(" + k + ")", desk.octet(k), want[k]);
-        }
-        due(what + ": octet behind the end", desk.octet(want.length), REFUSED);
-    }
-
-    private static void dueRewrite(String what, int want, int... octets) {
-        due(what, with(octets).rewrite(), want);
-    }
-
-    private static int[] join(int[]... rows) {
-        int[] all = new int[0];
-        for (int[] row : rows) {
-            int before = all.length;
-            all = Arrays.copyOf(all, before + row.length);
-            System.arraycopy(row, 0, all, before, row.length);
-        }
-        return all;
-    }
-
-    private static int[] times(int n, int v) {
-        int[] row = new int[n];
-        Arrays.fill(row, v);
-        return row;
-    }
-
-    private static int[] of(int... octets) {
-        return octets;
-    }
-
-    private static int[] s4(int v) {
-        return of(v >> 24 & 255, v >> 16 & 255, v >> 8 & 255, v & 255);
+        end();
     }
 
     // Promise 1
