@@ -391,10 +391,8 @@ public final class MeterDesk {
         /** 0, or what is wrong; then nothing is kept. */
         int make() {
             forget();
-            int wrong = 0;
-            if (!readInstructions() || !readGoals() || !readHandlers()) {
-                wrong = WRONG_FORM;
-            } else {
+            int wrong = WRONG_FORM;
+            if (readInstructions() && readGoals() && readHandlers()) {
                 sumBlocks();
                 measureLeads();
                 settle();
