@@ -414,7 +414,7 @@ public final class ReferenceRuns {
         }
 
         void go() {
-            int kind = dice.below(5);
+            int kind = dice.below(6);
             while (calls < CALLS - 60) {
                 if (ref.last == null || dice.once(90)) {
                     loadMethod(kind);
@@ -619,8 +619,10 @@ public final class ReferenceRuns {
         }
     }
 
-    /** Makes methods whose instructions are whole and whose goals mostly stand. */
+    /** Makes methods whose instructions are whole and whose goals mostly stand, or (RAW) mere octets. */
     private static final class Maker {
+        private static final int RAW = 5;
+
         private final Dice dice;
         private final int kind;
         private final List<Integer> octets = new ArrayList<>();
@@ -634,6 +636,20 @@ public final class ReferenceRuns {
         }
 
         List<Integer> method() {
+            return kind == RAW ? mereOctets() : wholeMethod();
+        }
+
+        /** Mostly wrong in form, but with the octets that make it right often enough. */
+        private List<Integer> mereOctets() {
+            int size = dice.among(1, 2, 3, 5, 8, 12, 20, 40, 200);
+            for (int i = 0; i < size; i++) {
+                octets.add(dice.among(0, 0, 0, 0, 1, 3, 4, 8, 20, 21, 132, 153, 166, 167, 168, 170, 170,
+                    171, 171, 172, 188, 189, 191, 196, 198, 199, 200, 254, 255, dice.below(256)));
+            }
+            return octets;
+        }
+
+        private List<Integer> wholeMethod() {
             int size = dice.among(1, 3, 10, 30, 60, 100, 150, 200, 200);
             boolean more = true;
             while (more) {
